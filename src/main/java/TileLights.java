@@ -63,6 +63,7 @@ public final class TileLights {
     private final History history;
     private final Script[] scripts;
     private final int[] statuses;
+    private final int[] chosen;
     private int scriptsHeld;
     private boolean imaged;
     private long chance;
@@ -84,6 +85,7 @@ public final class TileLights {
             scripts[i] = new Script();
         }
         statuses = new int[STATUSES];
+        chosen = new int[STEP_SIZE];
         scriptsHeld = 0;
         imaged = false;
         chance = 0L;
@@ -332,38 +334,38 @@ public final class TileLights {
         return sortOf(kind) == RULE_SORT ? kind - RULE : a;
     }
 
-    // What can't be is left without a STATUS, so it is asked ahead of the ACT.
-    private void actIfCan(int kind, int a, int b, int c, int d) {
-        if (works.refusal(live, kind, a, b, c, d) == NONE) {
-            act(kind, a, b, c, d, NONE);
-        }
-    }
-
     public int years(int n, long seed) {
         if (!hasScene() || n < 1 || n > YEARS_LIMIT) {
             return NONE;
         }
         chance = seed;
         for (int i = 0; i < n; i++) {
-            oneYear();
+            chooseAct();
+            // What can't be is left without a STATUS, so it is asked ahead of the ACT.
+            if (works.refusal(live, chosen[0], chosen[1], chosen[2], chosen[3], chosen[4]) == NONE) {
+                act(chosen[0], chosen[1], chosen[2], chosen[3], chosen[4], NONE);
+            }
         }
         return live.pairs();
     }
 
-    private void oneYear() {
+    private void chooseAct() {
         int sort = chanceOf(8);
         if (sort <= 4) {
-            actIfCan(DRAW, chanceOf(scene.triangles), 0, 0, 0);
+            chosen[0] = DRAW;
+            chosen[1] = chanceOf(scene.triangles);
         } else if (sort == 5) {
-            actIfCan(FLUSH, chanceOf(grid.tiles), 0, 0, 0);
+            chosen[0] = FLUSH;
+            chosen[1] = chanceOf(grid.tiles);
         } else if (sort == 6) {
-            actIfCan(RULE + LATE, 1 - live.rules[LATE], 0, 0, 0);
+            chosen[0] = RULE + LATE;
+            chosen[1] = 1 - live.rules[LATE];
         } else {
-            int triangle = chanceOf(scene.triangles);
-            int corner = chanceOf(3);
-            int across = chanceOf(9) - 4;
-            int down = chanceOf(9) - 4;
-            actIfCan(MOVE, triangle, corner, across, down);
+            chosen[0] = MOVE;
+            chosen[1] = chanceOf(scene.triangles);
+            chosen[2] = chanceOf(3);
+            chosen[3] = chanceOf(9) - 4;
+            chosen[4] = chanceOf(9) - 4;
         }
     }
 
@@ -992,7 +994,8 @@ public final class TileLights {
         int farOf(Frame frame, int tile) {
             int far = 0;
             for (int i = first[tile]; i < first[tile + 1]; i++) {
-                far = Math.max(far, frame.depth[order[i]]);
+                int depth = frame.depth[order[i]];
+                far = depth > far ? depth : far;
             }
             return far;
         }
@@ -1000,7 +1003,8 @@ public final class TileLights {
         int nearOf(Frame frame, int tile) {
             int near = EMPTY_DEPTH;
             for (int i = first[tile]; i < first[tile + 1]; i++) {
-                near = Math.min(near, frame.depth[order[i]]);
+                int depth = frame.depth[order[i]];
+                near = depth < near ? depth : near;
             }
             return near;
         }
@@ -1562,7 +1566,15 @@ public final class TileLights {
             }
             int were = Math.min(frame.binned[tile], BIN_LIMIT);
             for (int i = 0; i < were; i++) {
-                layOne(frame, frame.bins[tile * BIN_LIMIT + i], tile);
+                int t = frame.bins[tile * BIN_LIMIT + i];
+                if (!scene.has(t)) {
+                    continue;
+                }
+                if (isBehind(frame, t, tile)) {
+                    frame.skipped++;
+                } else if (!isCulled(frame, t)) {
+                    layOne(frame, t, tile);
+                }
             }
             frame.binned[tile] = 0;
             for (int i = grid.first[tile]; i < grid.first[tile + 1]; i++) {
@@ -1574,42 +1586,43 @@ public final class TileLights {
             return were;
         }
 
-        // A DEPTH PASSES, if it is less than what is there and test (0 or 1) added up.
+        private boolean isBehind(Frame frame, int t, int tile) {
+            return shapes[t].leastZ >= grid.farOf(frame, tile) + frame.rules[TEST];
+        }
+
         private void layOne(Frame frame, int t, int tile) {
-            if (!scene.has(t)) {
-                return;
-            }
-            int more = frame.rules[TEST];
-            if (shapes[t].leastZ >= grid.farOf(frame, tile) + more) {
-                frame.skipped++;
-                return;
-            }
-            if (isCulled(frame, t)) {
-                return;
-            }
             int[] depths = shapes[t].depths;
+            int alpha = scene.alpha[t];
+            boolean late = frame.rules[LATE] == 1;
             for (int i = grid.first[tile]; i < grid.first[tile + 1]; i++) {
                 int place = grid.order[i];
-                if (depths[place] >= 0) {
-                    frame.tested++;
-                    if (depths[place] < frame.depth[place] + more) {
-                        passAt(frame, t, place);
-                    }
+                if (!passes(frame, depths[place], place)) {
+                    continue;
+                }
+                if (alpha < OPAQUE) {
+                    shadePending(frame, place);
+                    blend(frame, t, place);
+                    continue;
+                }
+                frame.depth[place] = depths[place];
+                frame.pending[place] = t;
+                if (!late) {
+                    shadePending(frame, place);
                 }
             }
         }
 
-        private void passAt(Frame frame, int t, int place) {
-            int alpha = scene.alpha[t];
-            if (alpha == OPAQUE) {
-                frame.depth[place] = shapes[t].depths[place];
-                frame.pending[place] = t;
-                if (frame.rules[LATE] == 0) {
-                    shadePending(frame, place);
-                }
-                return;
+        // It is less than what is there, by test 1 also if as great; one that COVERS not is NONE and not TESTED.
+        private boolean passes(Frame frame, int depth, int place) {
+            if (depth < 0) {
+                return false;
             }
-            shadePending(frame, place);
+            frame.tested++;
+            return depth < frame.depth[place] + frame.rules[TEST];
+        }
+
+        private void blend(Frame frame, int t, int place) {
+            int alpha = scene.alpha[t];
             int shade = shapes[t].shades[place / PLACES];
             frame.color[place] = (shade * alpha + frame.color[place] * (OPAQUE - alpha)) / OPAQUE;
             frame.shaded[t] |= 1L << (place / PLACES);
@@ -1617,7 +1630,7 @@ public final class TileLights {
 
         private void shadePending(Frame frame, int place) {
             int t = frame.pending[place];
-            if (scene.has(t)) {
+            if (t >= 0 && t < TRIANGLES) {
                 frame.color[place] = shapes[t].shades[place / PLACES];
                 frame.shaded[t] |= 1L << (place / PLACES);
             }
