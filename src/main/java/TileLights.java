@@ -695,13 +695,9 @@ public final class TileLights {
             return at >= tape.length;
         }
 
-        private boolean isWithin(char low, char high) {
-            return at < tape.length && tape.signs[at] >= low && tape.signs[at] <= high;
-        }
-
         private boolean readSign(char sign) {
             skipBlanks();
-            if (!isWithin(sign, sign)) {
+            if (at >= tape.length || tape.signs[at] != sign) {
                 return false;
             }
             at++;
@@ -710,7 +706,7 @@ public final class TileLights {
 
         private int readWord(String words) {
             skipBlanks();
-            while (isWithin('a', 'z')) {
+            while (at < tape.length && tape.signs[at] >= 'a' && tape.signs[at] <= 'z') {
                 at++;
             }
             int word = 0;
@@ -754,13 +750,13 @@ public final class TileLights {
 
         private boolean readNumber(int i, int low, int high) {
             skipBlanks();
-            boolean below = isWithin('-', '-');
+            boolean below = at < tape.length && tape.signs[at] == '-';
             if (below) {
                 at++;
             }
             int digits = at;
             int worth = 0;
-            while (isWithin('0', '9')) {
+            while (at < tape.length && tape.signs[at] >= '0' && tape.signs[at] <= '9') {
                 worth = Math.min(worth * 10 + (tape.signs[at] - '0'), WORTH_LIMIT);
                 at++;
             }
@@ -1303,7 +1299,7 @@ public final class TileLights {
         }
 
         private int depthAt(int x, int y) {
-            int size = Math.abs(area);
+            int size = area < 0 ? -area : area;
             return size == 0 ? 0 : Math.floorDiv(slope[0] * x + slope[1] * y + slope[2], size);
         }
 

@@ -1,14 +1,21 @@
+import java.io.PrintWriter;
+import java.io.StringWriter;
 import java.lang.reflect.Constructor;
 import java.lang.reflect.Field;
 import java.lang.reflect.Method;
 import java.lang.reflect.Modifier;
 import java.nio.file.Files;
 import java.nio.file.Path;
+import java.util.ArrayList;
+import java.util.HashMap;
 import java.util.HashSet;
+import java.util.List;
+import java.util.Map;
 import java.util.Set;
 import java.util.TreeSet;
 import java.util.regex.Matcher;
 import java.util.regex.Pattern;
+import java.util.spi.ToolProvider;
 
 /** Rules of LANGUAGE.md that can be seen from the class and its text. Argument: the class's file. */
 public final class LanguageTest {
@@ -19,6 +26,7 @@ public final class LanguageTest {
     public static void main(String[] args) throws Exception {
         face();
         names();
+        depthOfCalls();
         if (args.length > 0) text(Files.readString(Path.of(args[0])));
         if (wrong != 0) System.exit(1);
         System.out.println("the rules that are looked at are kept");
@@ -64,6 +72,41 @@ public final class LanguageTest {
             if (fields > 20) bad("too many fields: " + c);
             for (Constructor<?> k : c.getDeclaredConstructors()) if (k.getParameterCount() > 7) bad("too many parameters: " + k);
         }
+    }
+
+    /** Who calls whom, as javap tells it; methods of one name in one class are taken together. */
+    private static void depthOfCalls() {
+        Map<String, Set<String>> calls = new HashMap<>();
+        List<Class<?>> classes = new ArrayList<>(List.of(TileLights.class.getDeclaredClasses()));
+        classes.add(TileLights.class);
+        String folder = TileLights.class.getProtectionDomain().getCodeSource().getLocation().getPath();
+        for (Class<?> c : classes) {
+            StringWriter out = new StringWriter();
+            PrintWriter writer = new PrintWriter(out);
+            ToolProvider.findFirst("javap").orElseThrow().run(writer, writer, "-p", "-c", "-cp", folder, c.getName());
+            String current = "";
+            for (String line : out.toString().split("\n")) {
+                Matcher method = Pattern.compile("^  [^:]*?([\\w$]+)\\([^)]*\\).*;\\s*$").matcher(line);
+                Matcher call = Pattern.compile("invoke\\w+ .*Method ([^:]+):").matcher(line);
+                if (method.find()) current = c.getName() + "." + method.group(1);
+                else if (call.find()) {
+                    String name = call.group(1).replace("\"", "");
+                    calls.computeIfAbsent(current, k -> new TreeSet<>()).add(name.contains(".") ? name : c.getName() + "." + name);
+                }
+            }
+        }
+        if (calls.size() < 50) bad("javap tells of " + calls.size() + " methods that call");
+        for (String name : FACE.split(" ")) {
+            int depth = depthOf("TileLights." + name, calls, 1);
+            if (depth > 8) bad(name + " goes " + depth + " calls deep");
+        }
+    }
+
+    private static int depthOf(String name, Map<String, Set<String>> calls, int depth) {
+        int deepest = depth;
+        if (depth > 20) return depth;
+        for (String called : calls.getOrDefault(name, Set.of())) deepest = Math.max(deepest, depthOf(called, calls, depth + 1));
+        return deepest;
     }
 
     private static void text(String source) {
