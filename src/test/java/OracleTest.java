@@ -17,6 +17,9 @@ public final class OracleTest {
     private final TileLights real = new TileLights();
     private final Oracle oracle = new Oracle();
     private final List<String> told = new ArrayList<>();
+    // CORNERS of the SCENE ahead: at times they come again, with all else changed.
+    private final List<int[]> lain = new ArrayList<>();
+    private boolean again = false;
     private int calls = 0;
     private boolean wrong = false;
 
@@ -58,6 +61,7 @@ public final class OracleTest {
             else if (d < 2) tellText(scriptText(), 1);
             else if (d < 3) tellText(broken(chance(2) ? sceneText() : scriptText()), below(3) - (chance(20) ? 1 : 0));
             else if (d < 35) actOrSo();
+            else if (d < 37) for (int what = 0; what < 4; what++) call("most", what);
             else look();
         }
     }
@@ -134,18 +138,27 @@ public final class OracleTest {
         if (chance(2)) clauses.add("late " + below(2));
         if (!chance(3)) clauses.add("room " + (1 + below(chance(2) ? 3 : 10)));
         int n = 1 + below(chance(3) ? 10 : 6);
-        for (int i = 0; i < n; i++) clauses.add(below(clauses.size() + 1), triangleText());
+        again = chance(2) && !lain.isEmpty();
+        if (!again) lain.clear();
+        for (int i = 0; i < n; i++) {
+            String triangle = triangleText(i);
+            clauses.add(again || chance(2) ? clauses.size() : below(clauses.size() + 1), triangle);
+        }
         return spaced(String.join(";", clauses));
     }
 
-    private String triangleText() {
+    private String triangleText(int number) {
         StringBuilder text = new StringBuilder(new String[] {"flat", "check", "rows", "deep"}[below(4)]).append(' ');
         int grain = new int[] {1, 1, 4, 8, 8}[below(5)];
         int reach = chance(4) ? 99 : 8;
         boolean level = chance(3);
         int z = below(chance(3) ? 1000 : 8);
+        int[] at = new int[6];
+        for (int i = 0; i < 6; i++) at[i] = coordinate(grain, reach);
+        if (again && number < lain.size()) at = lain.get(number);
+        else lain.add(at);
         for (int i = 0; i < 3; i++) {
-            text.append(coordinate(grain, reach)).append(',').append(coordinate(grain, reach)).append(',');
+            text.append(at[2 * i]).append(',').append(at[2 * i + 1]).append(',');
             text.append(level ? z : below(chance(3) ? 1000 : 12)).append(',');
         }
         return text.append(below(256)).append(',').append(chance(3) ? 1 + below(8) : 8).toString();

@@ -141,6 +141,14 @@ public final class PromisesTest {
         x.end(470);
         due("eleven more", x.feed(-1, -1, 0x01010100, 0, 0), NONE);
         due("ten more", x.feed(-1, -1, 0x01010000, 0, 0), 480);
+        for (int i = 0; i < 5; i++) {
+            x.end(478);
+            int[] v = new int[5];
+            v[i] = 0x00414243;
+            due("three more in number " + i, x.feed(v[0], v[1], v[2], v[3], v[4]), NONE);
+            v[i] = 0x41000043;
+            due("two more in number " + i, x.feed(v[0], v[1], v[2], v[3], v[4]), 480);
+        }
     }
 
     private static void end() {
@@ -172,6 +180,9 @@ public final class PromisesTest {
         fault(TINY + ";size 1 , 8", 0, NONE);
         fault("size 0,8", 0, 5);
         fault("size 8, 9", 0, 8);
+        fault("size 8,0", 0, 7);
+        fault("tile 1;" + TINY, 0, 5);
+        fault("room 0;" + TINY, 0, 5);
         fault("size 8,8 ", 0, 9);
         fault("tile 2;many 2;back 255;cull 2;test 1;late 0;room 10;" + TINY, 0, NONE);
         fault("tile 5;" + TINY, 0, 5);
@@ -232,6 +243,8 @@ public final class PromisesTest {
         fault(" all ;clear", 1, NONE);
         fault("flush 15;flush 16", 1, 15);
         fault("draw -1", 1, 5);
+        fault("draw 9", 1, NONE);
+        fault("draw 10", 1, 5);
         fault("cull 3", 1, 5);
         fault("test 2", 1, 5);
         fault("late 2", 1, 5);
@@ -286,6 +299,21 @@ public final class PromisesTest {
         due("rules are those of the SCENE", x.rule(7), 1);
         due("rules are those of the SCENE", x.rule(8), 3);
         due("sizes without a clause", x.rule(0) * 10L + x.rule(1), 88);
+        sameCorners();
+    }
+
+    /** Another SCENE with the same CORNERS: nothing that was reckoned for the one ahead is left. */
+    private static void sameCorners() {
+        TileLights x = scene("size 2,2;tile 2;flat 0,0,10,16,0,10,0,16,10,200,8");
+        due("DEPTH", x.depth(0, 0, 0, 0), 10);
+        tell(x, "size 4,3;tile 3;many 2;check 0,0,20,16,0,30,0,16,20,100,8", 0);
+        due("DEPTH at 2, 2", x.depth(0, 0, 0, 0), 21);
+        due("another PATTERN", x.shade(0, 1, 0), 155);
+        due("other SAMPLES", x.mask(0, 0, 0), 3);
+        due("other z", x.triangle(0, 5) * 100 + x.triangle(0, 6), 2030);
+        due("other TILES", x.triangle(0, 7), 1);
+        tell(x, "size 4,4;tile 2;flat 0,0,20,16,0,30,0,16,20,100,8", 0);
+        due("TILES again", x.triangle(0, 7), 7);
     }
 
     private static void rule() {
@@ -350,6 +378,14 @@ public final class PromisesTest {
         // Its box meets all TILES, its long EDGE (on 0, 34 to 34, 0) leaves TILE 3 by itself no corner below 0 but three.
         due("an EDGE near a corner", scene(FRAME + "flat 0,0,1,31,0,1,0,31,1,1,8").triangle(0, 7), 7);
         due("an EDGE beyond a corner", scene(FRAME + "flat 0,0,1,33,0,1,0,33,1,1,8").triangle(0, 7), 15);
+        // The least AREA that there is, with a CORNER in a CENTRE.
+        TileLights least = scene(FRAME + "flat 4,4,1,5,4,1,4,5,1,1,8;flat 4,4,1,4,5,1,5,4,1,1,8");
+        due("AREA", least.triangle(0, 0) * 10 + least.triangle(1, 0), 9);
+        due("it COVERS", least.triangle(0, 9) * 10 + least.triangle(1, 9), 11);
+        least.set(0, 1);
+        due("CULLED by 1", least.most(7), 2);
+        least.set(0, 2);
+        due("CULLED by 2", least.most(7), 1);
         due("left of all", scene(FRAME + "flat -9,0,1,-1,0,1,-9,9,1,1,8").triangle(0, 7), 0);
         due("right of all", scene(FRAME + "flat 33,0,1,44,0,1,33,9,1,1,8").triangle(0, 7), 0);
         due("at the right border", scene(FRAME + "flat 32,0,1,44,0,1,32,9,1,1,8").triangle(0, 7), 2);
@@ -893,6 +929,20 @@ public final class PromisesTest {
         due("a draw is UNDONE", x.undo(), 0);
         due("BINS", x.most(9), 0);
         due("none", x.undo(), NONE);
+        x.draw(0);
+        x.draw(0);
+        x.image();
+        x.all();
+        due("SKIPPED, TESTED, FLUSHES", x.most(1) * 100 + x.most(2) * 10 + x.most(3), 184);
+        x.clear();
+        x.undo();
+        due("they are again as they were", x.most(1) * 100 + x.most(2) * 10 + x.most(3), 184);
+        x.undo();
+        due("and as they were ahead", x.most(1) + x.most(2) + x.most(3), 0);
+        x.all();
+        x.back();
+        due("by BACK, too", x.most(1) + x.most(2) + x.most(3), 0);
+        x = scene(FRAME + HALF);
         for (int i = 0; i < 45; i++) x.set(2, i % 2);
         due("40 at most", x.count(5), 40);
         for (int i = 39; i >= 0; i--) due("undo()", x.undo(), i);
@@ -1061,6 +1111,11 @@ public final class PromisesTest {
         x.set(0, 2);
         due("CULLED: none COVERED", x.shared(0, 1, 1), 0);
         due("CULLED: no BORDER", x.border(0, 1, 0), 0);
+        x = scene(FRAME + HALF + ";flat 32,32,1,32,0,1,0,32,1,1,8");
+        due("one TURNED", x.border(0, 1, 0), 4);
+        x.set(0, 1);
+        due("one CULLED: no BORDER", x.border(0, 1, 0) + x.border(1, 0, 0) + x.border(0, 1, 1), 0);
+        due("but SAMPLES that the other COVERS", x.shared(0, 1, 1), 6);
     }
 
     private static void leftHidesSaved() {
