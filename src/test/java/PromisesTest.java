@@ -229,6 +229,12 @@ public final class PromisesTest {
         fault("flat 1,2,3,4,5,6,7,8,9,10,8,", 0, 27);
         fault("deep -99,160,0,160,-99,999,0,0,0,0,1", 0, NONE);
         fault("rows 1,2,3,4,5,6,7,8,9,10", 0, 25);
+        // The TAPE is full and ends where a part must be.
+        for (String last : new String[] {"", "tile", "tile -", "size 8", "size 8,", "size 8,8", "size 8,8;"}) {
+            String filled = " ".repeat(480 - last.length()) + last;
+            fault(filled, 0, last.equals("tile -") ? 479 : 480);
+        }
+        fault(" ".repeat(480 - TINY.length()) + TINY, 0, NONE);
         String ten = "flat0,0,0,8,0,0,0,8,0,1,1;".repeat(10);
         fault(ten.substring(0, ten.length() - 1), 0, NONE);
         fault(ten + "tile 2", 0, NONE);
@@ -378,6 +384,7 @@ public final class PromisesTest {
         // Its box meets all TILES, its long EDGE (on 0, 34 to 34, 0) leaves TILE 3 by itself no corner below 0 but three.
         due("an EDGE near a corner", scene(FRAME + "flat 0,0,1,31,0,1,0,31,1,1,8").triangle(0, 7), 7);
         due("an EDGE beyond a corner", scene(FRAME + "flat 0,0,1,33,0,1,0,33,1,1,8").triangle(0, 7), 15);
+        due("DEPTH 0 is COVERED, too", scene(FRAME + "flat 0,0,0,15,0,0,0,15,0,1,8").triangle(0, 8), 0);
         // The least AREA that there is, with a CORNER in a CENTRE.
         TileLights least = scene(FRAME + "flat 4,4,1,5,4,1,4,5,1,1,8;flat 4,4,1,4,5,1,5,4,1,1,8");
         due("AREA", least.triangle(0, 0) * 10 + least.triangle(1, 0), 9);
@@ -1110,6 +1117,8 @@ public final class PromisesTest {
         due("no such one", x.border(MIN, 0, 0), NONE);
         x.set(0, 2);
         due("CULLED: none COVERED", x.shared(0, 1, 1), 0);
+        TileLights one = scene("size 1,1;flat 0,0,0,8,0,0,0,8,0,1,8;flat 8,8,0,0,8,0,8,0,0,1,8");
+        due("one SAMPLE on it", one.border(0, 1, 0) * 100 + one.border(0, 1, 1) * 10 + one.border(0, 1, 2), 110);
         due("CULLED: no BORDER", x.border(0, 1, 0), 0);
         x = scene(FRAME + HALF + ";flat 32,32,1,32,0,1,0,32,1,1,8");
         due("one TURNED", x.border(0, 1, 0), 4);
