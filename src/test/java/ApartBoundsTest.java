@@ -85,6 +85,9 @@ public final class ApartBoundsTest {
         due("the other way round", x.shared(1, 0, 0) * 10 + x.shared(1, 0, 1), 13);
         due("one each", x.shared(1, 2, 0) * 10 + x.shared(1, 2, 1), 2);
         due("one that COVERS nothing", x.shared(0, 3, 0) * 10 + x.shared(0, 3, 1), 4);
+        TileLights zero = scene(TWO + cover(0, 7, 8) + ";" + cover(0, 7, 8) + ";flat 0,4,0,16,4,0,8,30,0,7,8;flat 0,4,0,16,4,0,8,40,0,7,8");
+        due("DEPTH 0 is COVERED, too", zero.shared(0, 1, 0) * 10 + zero.shared(0, 1, 1), 40);
+        due("on a BORDER, too", zero.border(2, 3, 2), 2);
         due("nothing at all", x.shared(3, 3, 0) * 10 + x.shared(3, 3, 1), 0);
         due("one with itself", x.shared(0, 0, 0) * 10 + x.shared(0, 0, 1), 40);
         for (int bad : new int[] {-1, 4, Bounds.MIN, Bounds.MAX}) {
@@ -183,6 +186,14 @@ public final class ApartBoundsTest {
         x.all();
         due("CLEARED first", x.whole(0, 0), 9);
         due("apart", x.pixel(0, 0), 41);
+        TileLights half = scene(ONE + "back 3;" + cover(5, 80, 4));
+        for (int i = 0; i < 3; i++) {
+            half.draw(0);
+            half.all();
+            due("CLEARED first: blended once", half.whole(0, 0), 41);
+        }
+        half.draw(0);
+        due("what is in BINS is gone, too", half.whole(0, 0), 41);
         says("a full BIN is FLUSHED: with room 1 what is blended later lies on what was SHADED");
         for (int room = 1; room <= 10; room++) {
             TileLights y = scene(ONE + "room " + room + ";" + cover(9, 80, 8) + ";" + cover(8, 0, 4) + ";" + cover(7, 80, 4) + ";" + cover(6, 255, 1));

@@ -14,6 +14,7 @@ public final class DrawBoundsTest {
         high();
         litOnce();
         covers();
+        leastAndGreatest();
         depth();
         shade();
         tiles();
@@ -220,6 +221,43 @@ public final class DrawBoundsTest {
         }
     }
 
+    private static void leastAndGreatest() {
+        says("5 its least z, 6 its greatest z");
+        String[] orders = {"ABC", "ACB", "BAC", "BCA", "CAB", "CBA"};
+        for (String order : orders) {
+            for (int turned = 0; turned <= 1; turned++) {
+                String at = turned == 0 ? "0,0,%s,8,0,%s,0,8,%s" : "0,0,%s,0,8,%s,8,0,%s";
+                String[] z = new String[3];
+                for (int i = 0; i < 3; i++) z[i] = order.charAt(i) == 'A' ? "0" : order.charAt(i) == 'B' ? "500" : "999";
+                TileLights x = scene("flat " + String.format(at, z[0], z[1], z[2]) + ",7,8");
+                due("least z of " + order, x.triangle(0, 5), 0);
+                due("greatest z of " + order, x.triangle(0, 6), 999);
+            }
+        }
+        says("Of a CORNER (0 .. 2, as told): 0 x, 1 y, 2 z, of each TRIANGLE");
+        StringBuilder text = new StringBuilder();
+        for (int t = 0; t < 10; t++) {
+            text.append(t > 0 ? ";flat" : "flat");
+            for (int i = 0; i < 9; i++) text.append(t * 9 + i).append(',');
+            text.append(t).append(',').append(1 + t % 8);
+        }
+        TileLights x = scene(text.toString());
+        for (int t = 0; t < 10; t++) {
+            for (int i = 0; i < 9; i++) due("corner(" + t + ", " + i / 3 + ", " + i % 3 + ")", x.corner(t, i / 3, i % 3), t * 9L + i);
+            due("COLOR and ALPHA", x.triangle(t, 2) * 10 + x.triangle(t, 1), t * 10 + 1 + t % 8);
+        }
+        for (int t : new int[] {-1, 10, Bounds.MIN, Bounds.MAX}) due("corner(" + t + ", 0, 0)", x.corner(t, 0, 0), HIDDEN);
+        for (int bad : new int[] {-1, 3, Bounds.MIN, Bounds.MAX}) {
+            due("corner(9, " + bad + ", 0)", x.corner(9, bad, 0), HIDDEN);
+            due("corner(9, 0, " + bad + ")", x.corner(9, 0, bad), HIDDEN);
+            due("edge(9, " + bad + ", 0, 0)", x.edge(9, bad, 0, 0), HIDDEN);
+            due("edge of no such one", x.edge(bad == 3 ? 10 : bad, 0, 0, 0), HIDDEN);
+        }
+        for (int what : new int[] {-1, 12, Bounds.MIN, Bounds.MAX}) due("triangle(9, " + what + ") throws", Bounds.answer(y -> y.triangle(9, what), x), Bounds.THROWS);
+        for (int t : new int[] {-1, 10, Bounds.MIN, Bounds.MAX}) due("triangle(" + t + ", 0) throws", Bounds.answer(y -> y.triangle(t, 0), x), Bounds.THROWS);
+        due("triangle(9, 11)", x.triangle(9, 11), 0);
+    }
+
     private static void depth() {
         says("DEPTH of it at a point: z of its first CORNER times SUM of EDGE 1, of the second times EDGE 2, of the third times EDGE 0");
         String[] order = {"4,4,A,5,4,B,4,5,C", "4,4,A,4,5,C,5,4,B", "5,4,B,4,5,C,4,4,A", "4,5,C,5,4,B,4,4,A", "4,5,C,4,4,A,5,4,B", "5,4,B,4,4,A,4,5,C"};
@@ -268,6 +306,9 @@ public final class DrawBoundsTest {
         due("DEPTH -4", slant(24, 100).shade(0, 3, 0), 101);
         due("DEPTH -5", slant(23, 100).shade(0, 3, 0), 102);
         due("covered or not", slant(23, 100).mask(0, 3, 0), 0);
+        // DEPTH is 60 less y here: at the CENTRES 56, 48, 40.
+        TileLights down = scene("size 1,3;deep 0,0,60,60,0,60,0,60,0,100,8");
+        for (int y = 0; y < 3; y++) due("Y " + y, down.shade(0, 0, y), 100 - (60 - (8 * y + 4)) / 4);
         says("SHADE is held within 0 .. 255");
         due("0 by -1", scene("size 1,1;" + Bounds.cover("deep", 999, 248, 8)).shade(0, 0, 0), 0);
         due("0 by -249", scene("size 1,1;" + Bounds.cover("deep", 999, 0, 8)).shade(0, 0, 0), 0);
@@ -294,7 +335,8 @@ public final class DrawBoundsTest {
     }
 
     private static void tilesOf(int wide, int high, int size) {
-        String ahead = "size " + wide + "," + high + ";tile " + size + ";";
+        int many = 1 << (wide + high) % 3;
+        String ahead = "size " + wide + "," + high + ";tile " + size + ";many " + many + ";";
         TileLights x = scene(ahead + cover(5, 7, 8));
         int columns = (wide + size - 1) / size;
         int tiles = columns * ((high + size - 1) / size);
@@ -306,12 +348,13 @@ public final class DrawBoundsTest {
         due("no such TILE", x.tile(tiles, 4), NONE);
         int[][] corners = {{0, 0}, {wide - 1, 0}, {0, high - 1}, {wide - 1, high - 1}};
         for (int[] c : corners) {
-            TileLights y = scene(ahead + Bounds.point(c[0] * 8 + 4, c[1] * 8 + 4, 5, 7, 8));
+            int[] lie = LIE[many / 2];
+            TileLights y = scene(ahead + Bounds.point(c[0] * 8 + lie[0], c[1] * 8 + lie[1], 5, 8, 8));
             int tile = c[1] / size * columns + c[0] / size;
             due("the TILE of PIXEL " + c[0] + " " + c[1] + " of " + ahead, y.triangle(0, 7), 1 << tile);
             due("DRAWN into it", y.draw(0) * 100 + y.tile(tile, 0), 101);
             due("FLUSHED", y.flush(tile), 1);
-            due("it is lit", y.pixel(c[0], c[1]), 7);
+            due("it is lit", y.pixel(c[0], c[1]), 8 / many);
             due("its bit", y.shaded(0), 1L << (c[1] * 8 + c[0]));
         }
     }
@@ -361,6 +404,17 @@ public final class DrawBoundsTest {
         due("0 at a corner of TILE 2", touched("flat 32,0,0,32,32,0,0,0,0,7,8"), 15);
         due("from the lower left", touched("flat 0,32,0,0,1,0,31,32,0,7,8"), 13);
         due("0 at a corner of TILE 1", touched("flat 0,32,0,0,0,0,32,32,0,7,8"), 15);
+        says("no EDGE, whichever of the three it is");
+        int[][] halves = {{0, 0, 31, 0, 0, 31, 7}, {0, 0, 32, 0, 0, 32, 15}, {32, 32, 1, 32, 32, 1, 14}, {32, 0, 32, 31, 1, 0, 11}, {0, 32, 0, 1, 31, 32, 13}};
+        for (int[] h : halves) {
+            for (int turn = 0; turn < 3; turn++) {
+                for (int way = 1; way <= 2; way++) {
+                    StringBuilder told = new StringBuilder("flat ");
+                    for (int i = 0; i < 3; i++) told.append(h[(turn + way * i) % 3 * 2]).append(',').append(h[(turn + way * i) % 3 * 2 + 1]).append(",0,");
+                    due("TILES of " + told, touched(told + "7,8"), h[6]);
+                }
+            }
+        }
         says("a TILE that is cut off has its corners where the frame ends");
         // A frame of 3 times 3: TILE 3 is one PIXEL, from 16 to 24.
         TileLights x = scene("size 3,3;tile 2;flat 24,2,0,30,2,0,24,9,0,7,8;flat 25,2,0,30,2,0,25,9,0,7,8;flat 2,24,0,9,24,0,2,30,0,7,8;flat 2,25,0,9,25,0,2,30,0,7,8");
@@ -597,6 +651,13 @@ public final class DrawBoundsTest {
                 due("it counts as SHADED", x.shaded(0), 1);
             }
         }
+        says("it counts as SHADED in that PIXEL (a set)");
+        TileLights pixels = scene("size 3,2;tile 2;many 2;" + cover(5, 7, 3));
+        pixels.draw(0);
+        pixels.draw(0);
+        pixels.all();
+        due("bits", pixels.shaded(0), 7L | 7L << 8);
+        due("pairs", pixels.most(0), 6);
         says("is one PENDING there, that is SHADED");
         TileLights x = scene(ONE + "back 3;" + cover(9, 80, 8) + ";" + cover(8, 160, 4) + ";" + cover(7, 200, 8));
         for (int t = 0; t < 3; t++) x.draw(t);

@@ -568,6 +568,17 @@ public final class TextBoundsTest {
                 due("count(2)", y.count(2), fits ? held + more : held);
             }
         }
+        says("each byte but 0 counts, whatever it is and wherever it stands");
+        for (int place = 0; place < 20; place++) {
+            for (int b : new int[] {1, 2, 127, 128, 255}) {
+                int[] v = new int[5];
+                v[place / 4] = b << (24 - place % 4 * 8);
+                TileLights y = Bounds.feed(new TileLights(), "x".repeat(479));
+                due("feed of byte " + b + " at " + place, y.feed(v[0], v[1], v[2], v[3], v[4]), 480);
+                due("once more", y.feed(v[0], v[1], v[2], v[3], v[4]), NONE);
+                due("in an empty TAPE", new TileLights().feed(v[0], v[1], v[2], v[3], v[4]), 1);
+            }
+        }
         says("The TAPE has its first n bytes alone. False: n");
         x = Bounds.feed(new TileLights(), "all;all;x");
         int[] bad = {-1, 10, 480, Bounds.MIN, Bounds.MAX};
