@@ -110,30 +110,29 @@ final class Bounds {
 
     /** Behind the calls all is as it would be without them, but STATUS. */
     static void same(String call, Consumer<TileLights> setup, Consumer<TileLights> made) {
-        TileLights like = new TileLights();
-        setup.accept(like);
-        List<Look> looks = looks(like);
-        TileLights with = null;
-        TileLights without = null;
+        alike("behind " + call, setup.andThen(made), setup);
+    }
+
+    /** Two ways to make an object: all is alike then, but STATUS. */
+    static void alike(String when, Consumer<TileLights> one, Consumer<TileLights> other) {
+        List<Look> looks = looks(made(other));
+        TileLights first = null;
+        TileLights second = null;
         for (int i = 0; i < looks.size(); i++) {
             if (i % LOOKS_A_PAIR == 0) {
-                with = new TileLights();
-                setup.accept(with);
-                made.accept(with);
-                without = new TileLights();
-                setup.accept(without);
+                first = made(one);
+                second = made(other);
             }
             Look look = looks.get(i);
-            due(look.name + " behind " + call, answer(look.ask, with), answer(look.ask, without));
+            due(look.name + " " + when, answer(look.ask, first), answer(look.ask, second));
         }
-        for (Look look : lastLooks()) {
-            with = new TileLights();
-            setup.accept(with);
-            made.accept(with);
-            without = new TileLights();
-            setup.accept(without);
-            due(look.name + " behind " + call, answer(look.ask, with), answer(look.ask, without));
-        }
+        for (Look look : lastLooks()) due(look.name + " " + when, answer(look.ask, made(one)), answer(look.ask, made(other)));
+    }
+
+    private static TileLights made(Consumer<TileLights> by) {
+        TileLights x = new TileLights();
+        by.accept(x);
+        return x;
     }
 
     static final class Look {

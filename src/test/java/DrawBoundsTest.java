@@ -306,6 +306,12 @@ public final class DrawBoundsTest {
         due("DEPTH -4", slant(24, 100).shade(0, 3, 0), 101);
         due("DEPTH -5", slant(23, 100).shade(0, 3, 0), 102);
         due("covered or not", slant(23, 100).mask(0, 3, 0), 0);
+        // 960 less 16 times y, and 16 times x: an eighth beside the CENTRE would be a SHADE of 4 more or less.
+        TileLights steep = scene("size 2,3;deep 0,0,960,60,0,960,0,60,0,250,8;deep 0,0,0,60,0,960,0,60,0,250,8");
+        for (int i = 0; i < 6; i++) {
+            due("steep down", steep.shade(0, i % 2, i / 2), 250 - (960 - 16 * (i / 2 * 8 + 4)) / 4);
+            due("steep across", steep.shade(1, i % 2, i / 2), 250 - 16 * (i % 2 * 8 + 4) / 4);
+        }
         // DEPTH is 60 less y here: at the CENTRES 56, 48, 40.
         TileLights down = scene("size 1,3;deep 0,0,60,60,0,60,0,60,0,100,8");
         for (int y = 0; y < 3; y++) due("Y " + y, down.shade(0, 0, y), 100 - (60 - (8 * y + 4)) / 4);
@@ -387,6 +393,9 @@ public final class DrawBoundsTest {
         TileLights x = scene("size 4,4;tile 2;flat 12,4,0,16,4,0,12,8,0,7,8;flat 16,4,0,20,4,0,16,8,0,7,8");
         due("TILES 0 and 1", x.triangle(0, 7) * 10 + x.triangle(1, 7), 33);
         due("in vain TILE 1, and both: 20 4 is its far CORNER", x.triangle(0, 8) * 10 + x.triangle(1, 8), 23);
+        TileLights next = scene("size 4,4;tile 2;flat 16,4,0,24,4,0,16,12,0,7,8;flat 4,16,0,12,16,0,4,24,0,7,8");
+        due("in vain TILE 0, not the one behind it", next.triangle(0, 7) * 10 + next.triangle(0, 8), 31);
+        due("in vain TILE 0, not the one below it", next.triangle(1, 7) * 10 + next.triangle(1, 8), 51);
     }
 
     private static int touched(String triangle) {
@@ -453,6 +462,17 @@ public final class DrawBoundsTest {
         x.all();
         due("TILE 0", x.tile(0, 1) * 10000L + x.tile(0, 2), 9990000);
         due("TILE 1", x.tile(1, 1) * 10000L + x.tile(1, 2), 9990999);
+        says("a DEPTH of 0 is the least there is");
+        TileLights zero = scene("size 2,1;tile 2;" + cover(0, 7, 8) + ";" + cover(0, 9, 8));
+        zero.draw(0);
+        zero.draw(1);
+        zero.all();
+        due("FAR and NEAR", zero.tile(0, 1) * 10 + zero.tile(0, 2), 0);
+        due("as far is behind", zero.most(1), 1);
+        zero.set(1, 1);
+        zero.draw(1);
+        zero.all();
+        due("by test 1 it is not", zero.most(1) * 10 + zero.pixel(0, 0), 19);
         says("a TILE that is cut off: only what is in the frame counts");
         TileLights y = scene("size 3,1;tile 2;" + cover(5, 7, 8));
         y.draw(0);
@@ -831,6 +851,18 @@ public final class DrawBoundsTest {
             due("STATUS 1", x.status(1), refusals);
         }
         due("at the bounds", x.corner(0, 0, 0) == -99 && x.corner(0, 0, 1) == 160 && x.corner(0, 1, 0) == 160 && x.corner(0, 1, 1) == -99 ? 1 : 0, 1);
+        says("a CORNER is MOVED: it TOUCHES and COVERS as it lies then");
+        TileLights far = scene("size 4,4;tile 2;flat 18,18,5,26,18,5,18,26,5,7,8");
+        due("TILE 3", far.triangle(0, 7), 8);
+        far.move(0, 0, -16, -16);
+        due("all but it reaches no TILE less", far.triangle(0, 7), 15);
+        far.move(0, 1, -16, -16);
+        far.move(0, 2, -16, -16);
+        due("TILE 0 alone", far.triangle(0, 7) * 10 + far.triangle(0, 9), 11);
+        due("DRAWN into it alone", far.draw(0) * 10 + far.tile(0, 0), 11);
+        far.undo();
+        for (int i = 0; i < 3; i++) far.undo();
+        due("TILE 3 again", far.triangle(0, 7) * 10 + far.mask(0, 2, 2), 81);
         says("a CORNER is MOVED: AREA then, 0 too");
         TileLights y = scene(ONE + "flat 0,0,5,8,0,5,0,8,5,7,8");
         due("AREA 0", y.move(0, 2, 8, -8), 0);

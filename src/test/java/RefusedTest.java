@@ -25,6 +25,8 @@ public final class RefusedTest {
         yearsUndoImage();
         scripts();
         asking();
+        anotherScene();
+        undoneAndBack();
         fullOfActs();
         Bounds.finish();
     }
@@ -375,6 +377,74 @@ public final class RefusedTest {
                     for (Bounds.Look look : some) Bounds.answer(look.ask, x);
                 });
             }
+        }
+    }
+
+    private static final String[] OTHERS = {
+        "size 1,1;tile 2;many 4;back 3;flat -9,-9,5,99,-9,50,-9,99,8,70,8",
+        "size 8,2;tile 3;many 1;cull 1;deep 0,0,9,60,0,5,0,16,1,99,8;flat 60,16,0,0,16,0,60,0,0,50,4",
+        "size 2,5;tile 4;many 2;test 1;late 0;check -9,-9,9,99,-9,5,-9,99,1,99,8;rows 0,0,3,16,0,3,0,40,3,50,8;flat 3,3,0,9,3,0,3,9,0,8,2",
+        SCENE, SCENE.replace("many 2", "many 4").replace("tile 2", "tile 3"), SCENE.replace("size 3,3", "size 2,4").replace(",70,8", ",70,3")};
+
+    /** Whatever SCENE was ahead, and whatever was done in it: it is as in an object that never had one. */
+    private static void anotherScene() {
+        says("The TAPE is the SCENE (CLEARED; all that was of another one is gone but SCRIPTS, STATUS)");
+        for (String ahead : OTHERS) {
+            for (String text : OTHERS) {
+                Consumer<TileLights> acts = x -> {
+                    x.draw(0);
+                    x.draw(1);
+                    x.flush(0);
+                    x.draw(0);
+                    x.move(1, 0, 1, 1);
+                };
+                Bounds.alike("in a SCENE behind another", x -> {
+                    Bounds.tell(x, ahead, 0);
+                    acts.accept(x);
+                    x.set(3, 1);
+                    x.image();
+                    Bounds.tell(x, text, 0);
+                    acts.accept(x);
+                }, x -> {
+                    Bounds.tell(x, text, 0);
+                    acts.accept(x);
+                });
+            }
+        }
+        says("SCRIPTS, STATUS stay");
+        TileLights x = new TileLights();
+        full(x);
+        int[] before = new int[4];
+        for (int i = 0; i < 4; i++) before[i] = x.status(i);
+        Bounds.due("text(0)", Bounds.tell(x, SCENE, 0), 5);
+        for (int i = 0; i < 4; i++) Bounds.due("status(" + i + ")", x.status(i), before[i]);
+        Bounds.due("count(1)", x.count(1), 4);
+        Bounds.due("step(0, 2, 4)", x.step(0, 2, 4), 3);
+        Bounds.due("count(2): the TAPE is empty then", x.count(2), 0);
+    }
+
+    /** Each sort of ACT, UNDONE or gone BACK from: all is as it was. */
+    private static void undoneAndBack() {
+        List<ToLongFunction<TileLights>> acts = List.of(x -> x.draw(0), x -> x.draw(1), x -> x.draw(4), x -> x.flush(0), x -> x.flush(3), TileLights::all, TileLights::clear,
+            x -> x.set(0, 1), x -> x.set(0, 2), x -> x.set(1, 0), x -> x.set(2, 0), x -> x.set(3, 1), x -> x.move(3, 0, -20, -20), x -> x.move(3, 2, -20, 20));
+        for (int i = 0; i < acts.size(); i++) {
+            ToLongFunction<TileLights> act = acts.get(i);
+            says("The latest ACT is UNDONE");
+            Bounds.same("ACT " + i + " and undo()", RefusedTest::busy, x -> {
+                Bounds.due("it is an ACT", act.applyAsLong(x) == NONE ? 0 : 1, 1);
+                x.undo();
+            });
+            says("BACK: they are so again");
+            Bounds.alike("behind ACT " + i + " and back()", x -> {
+                busy(x);
+                x.image();
+                act.applyAsLong(x);
+                x.back();
+            }, x -> {
+                busy(x);
+                x.image();
+                x.back();
+            });
         }
     }
 
