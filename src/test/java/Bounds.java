@@ -30,7 +30,7 @@ final class Bounds {
 
     static void due(String call, long got, long want) {
         checks++;
-        if (got == want) return;
+        if (got == want && got != BREAKS) return;
         wrong++;
         if (wrong <= 60) System.out.println("\"" + sentence + "\": " + call + " answered " + got + ", due is " + want);
     }

@@ -66,6 +66,32 @@ public final class RefusedTest {
         Bounds.feed(x, " ".repeat(477) + "all");
     }
 
+    private static final String[] SCRIPTS = {"draw 9;flush 15;draw 0;draw 0;all;room 1;move 9,2,-20,20;cull 2;clear;test 1;late 0;cull 1", "all", "draw 4;clear", "flush 0"};
+
+    /** 16 TILES, 256 SAMPLES, ten TRIANGLES, four SCRIPTS, one of them of twelve STEPS. */
+    private static void largest(TileLights x) {
+        for (String script : SCRIPTS) Bounds.tell(x, script, 1);
+        StringBuilder text = new StringBuilder("many4;tile2;room2");
+        for (int t = 0; t < 10; t++) {
+            int far = 70 - 5 * t;
+            text.append(t % 2 == 0 ? ";deep" : ";flat").append("-1,").append(t).append(',').append(90 - t).append(',').append(far).append(",0,5,").append(t);
+            text.append(',').append(far).append(",9,9").append(t).append(',').append(t % 4 == 3 ? 4 : 8);
+        }
+        Bounds.tell(x, text.toString(), 0);
+        for (int t = 0; t < 10; t++) x.draw(t);
+        x.set(2, 0);
+        x.draw(9);
+        x.image();
+    }
+
+    private static void largestBehindAnother(TileLights x) {
+        Bounds.tell(x, SCENE, 0);
+        x.draw(0);
+        x.move(3, 0, 1, 1);
+        x.image();
+        largest(x);
+    }
+
     private static void noImage(TileLights x) {
         Bounds.tell(x, SCENE, 0);
         x.draw(0);
@@ -411,6 +437,14 @@ public final class RefusedTest {
                 });
             }
         }
+        Bounds.alike("in the largest SCENE behind another", RefusedTest::largestBehindAnother, RefusedTest::largest);
+        Bounds.alike("in a SCENE behind the largest", x -> {
+            largest(x);
+            Bounds.tell(x, OTHERS[1], 0);
+        }, x -> {
+            for (String script : SCRIPTS) Bounds.tell(x, script, 1);
+            Bounds.tell(x, OTHERS[1], 0);
+        });
         says("SCRIPTS, STATUS stay");
         TileLights x = new TileLights();
         full(x);
