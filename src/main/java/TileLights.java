@@ -960,7 +960,7 @@ public final class TileLights {
         }
 
         int leftOf(int tile) {
-            return tile % columns * size;
+            return columns > 0 ? tile % columns * size : 0;
         }
 
         int rightOf(int tile) {
@@ -968,7 +968,7 @@ public final class TileLights {
         }
 
         int topOf(int tile) {
-            return tile / columns * size;
+            return columns > 0 ? tile / columns * size : 0;
         }
 
         int bottomOf(int tile) {
@@ -976,7 +976,7 @@ public final class TileLights {
         }
 
         int pixelsOf(int tile) {
-            return (first[tile + 1] - first[tile]) / many;
+            return many > 0 ? (first[tile + 1] - first[tile]) / many : 0;
         }
 
         int resolved(Frame frame, int pixel) {
@@ -984,7 +984,7 @@ public final class TileLights {
             for (int k = 0; k < many; k++) {
                 sum += frame.color[pixel * PLACES + k];
             }
-            return sum / many;
+            return many > 0 ? sum / many : 0;
         }
 
         int farOf(Frame frame, int tile) {

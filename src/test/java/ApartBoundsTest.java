@@ -32,6 +32,7 @@ public final class ApartBoundsTest {
         yearsRound();
         image();
         back();
+        allCornersMoved();
         most();
         count();
         Bounds.finish();
@@ -685,6 +686,48 @@ public final class ApartBoundsTest {
         for (int i = 0; i < 70; i++) v.all();
         v.back();
         due("the LOG", v.count(4) * 100 + v.log(0, 0) * 10 + v.log(59, 0), 6030);
+    }
+
+    // All three CORNERS lie elsewhere, across and down: nothing of a TRIANGLE as it was may be taken for what it is now.
+    private static void allCornersMoved() {
+        String text = "size 4,4;tile 2;deep 0,0,100,16,0,200,0,16,300,250,8;flat 30,30,1,31,30,1,30,31,1,9,8";
+        int[][] moves = {{0, 0, 5, 5}, {0, 1, 4, 3}, {0, 2, 2, 4}};
+        TileLights first = scene(text);
+        says("RUN is apart: CORNERS are as they were");
+        TileLights ran = scene(text);
+        Bounds.tell(ran, "move 0,0,5,5;move 0,1,4,3;move 0,2,2,4", 1);
+        due("run(0, 0)", ran.run(0, 0), NONE);
+        likeFirst(ran, first);
+        says("BACK: CORNERS are so again");
+        TileLights back = scene(text);
+        back.image();
+        for (int[] m : moves) back.move(m[0], m[1], m[2], m[3]);
+        due("AREA then", back.triangle(0, 0), (20 - 5) * (20 - 5) - (3 - 5) * (2 - 5));
+        due("back()", back.back(), 0);
+        likeFirst(back, first);
+        says("another SCENE: CORNERS are as its TEXT tells");
+        TileLights other = scene(text);
+        for (int[] m : moves) other.move(m[0], m[1], m[2], m[3]);
+        due("text(0)", Bounds.tell(other, text, 0), 2);
+        likeFirst(other, first);
+        says("UNDONE one by one: CORNERS are as they were");
+        TileLights undone = scene(text);
+        for (int[] m : moves) undone.move(m[0], m[1], m[2], m[3]);
+        for (int i = 2; i >= 0; i--) due("undo()", undone.undo(), i);
+        likeFirst(undone, first);
+    }
+
+    private static void likeFirst(TileLights x, TileLights first) {
+        for (int what = 0; what <= 9; what++) due("triangle(0, " + what + ")", x.triangle(0, what), first.triangle(0, what));
+        for (int e = 0; e < 3; e++) due("edge(0, " + e + ", 3, 4)", x.edge(0, e, 3, 4), first.edge(0, e, 3, 4));
+        for (int i = 0; i < 9; i++) {
+            int px = i % 3;
+            int py = i / 3;
+            due("mask(0, " + px + ", " + py + ")", x.mask(0, px, py), first.mask(0, px, py));
+            due("depth(0, " + px + ", " + py + ", 0)", x.depth(0, px, py, 0), first.depth(0, px, py, 0));
+            due("shade(0, " + px + ", " + py + ")", x.shade(0, px, py), first.shade(0, px, py));
+            due("whole(" + px + ", " + py + ")", x.whole(px, py), first.whole(px, py));
+        }
     }
 
     private static void most() {
